@@ -72,10 +72,7 @@ public final class TollLedger {
     }
 
     public int send(int b, int v) {
-        if (!isOther(b) || !isWithin(v, 1, MILLION)) {
-            return BAD;
-        }
-        int refusal = charge();
+        int refusal = charge(isOther(b) && isWithin(v, 1, MILLION));
         if (refusal != DONE) {
             return refusal;
         }
@@ -93,10 +90,8 @@ public final class TollLedger {
     }
 
     public int trust(int b, int currency, int limit, boolean quiet) {
-        if (!isOther(b) || !isCurrency(currency) || !isWithin(limit, 0, HUNDRED_THOUSAND)) {
-            return BAD;
-        }
-        int refusal = charge();
+        int refusal = charge(isOther(b) && isCurrency(currency)
+                && isWithin(limit, 0, HUNDRED_THOUSAND));
         if (refusal != DONE) {
             return refusal;
         }
@@ -114,10 +109,7 @@ public final class TollLedger {
     }
 
     public int rate(int r) {
-        if (!isWithin(r, 0, MOST_RATE)) {
-            return BAD;
-        }
-        int refusal = charge();
+        int refusal = charge(isWithin(r, 0, MOST_RATE));
         if (refusal != DONE) {
             return refusal;
         }
@@ -136,10 +128,7 @@ public final class TollLedger {
     }
 
     public int pay(int b, int k, int v) {
-        if (!isOther(b) || !isWithin(k, 1, ASSETS - 1) || !isWithin(v, 1, MOST_PAYMENT)) {
-            return BAD;
-        }
-        int refusal = charge();
+        int refusal = charge(isOther(b) && isAsset(k) && k != COIN && isWithin(v, 1, MOST_PAYMENT));
         if (refusal != DONE) {
             return refusal;
         }
@@ -163,11 +152,9 @@ public final class TollLedger {
     }
 
     public int offer(int wants, int w, int gives, int g, int kind) {
-        if (!isAsset(wants) || !isAsset(gives) || wants == gives || !isWithin(kind, KEPT, WHOLE)
-                || !isWithin(w, 1, HUNDRED_THOUSAND) || !isWithin(g, 1, HUNDRED_THOUSAND)) {
-            return BAD;
-        }
-        int refusal = charge();
+        int refusal = charge(isAsset(wants) && isAsset(gives) && wants != gives
+                && isWithin(w, 1, HUNDRED_THOUSAND) && isWithin(g, 1, HUNDRED_THOUSAND)
+                && isWithin(kind, KEPT, WHOLE));
         if (refusal != DONE) {
             return refusal;
         }
@@ -195,10 +182,7 @@ public final class TollLedger {
     }
 
     public int cancel(int id) {
-        if (id < 1) {
-            return BAD;
-        }
-        int refusal = charge();
+        int refusal = charge(id >= 1);
         if (refusal != DONE) {
             return refusal;
         }
@@ -211,11 +195,8 @@ public final class TollLedger {
     }
 
     public int deposit(int b, int v, int after, int until) {
-        if (!isOther(b) || !isWithin(v, 1, MILLION)
-                || after < 0 || after >= until || until > HUNDRED_THOUSAND) {
-            return BAD;
-        }
-        int refusal = charge();
+        int refusal = charge(isOther(b) && isWithin(v, 1, MILLION)
+                && 0 <= after && after < until && until <= HUNDRED_THOUSAND);
         if (refusal != DONE) {
             return refusal;
         }
@@ -234,10 +215,7 @@ public final class TollLedger {
     }
 
     public int settle(int id) {
-        if (id < 1) {
-            return BAD;
-        }
-        int refusal = charge();
+        int refusal = charge(id >= 1);
         if (refusal != DONE) {
             return refusal;
         }
@@ -341,9 +319,9 @@ public final class TollLedger {
         return leaves.fold();
     }
 
-    /** Refuses the transaction, or burns its fee and answers DONE. */
-    private int charge() {
-        if (signer == ABSENT) {
+    /** Refuses the transaction (BAD if its own numbers are not good), or burns its fee: DONE. */
+    private int charge(boolean good) {
+        if (!good || signer == ABSENT) {
             return BAD;
         }
         Account account = state.accounts[signer];
@@ -729,19 +707,22 @@ public final class TollLedger {
 
         void planAll(int t) {
             startPlan();
-            while (reached < book.size && taken < t) {
-                goThrough(t - taken);
+            for (int place = 0; place < book.size && taken < t; place++) {
+                goThrough(place, t - taken);
             }
         }
 
         /** Goes on when g is used up: offers without funds are gone as long as w is not taken. */
         void planCrossing(int w, int g, int purse) {
             startPlan();
-            while (reached < book.size && taken < w && isCrossed(book.row[reached], w, g)) {
-                Offer offer = book.row[reached];
+            for (int place = 0; place < book.size && taken < w; place++) {
+                Offer offer = book.row[place];
+                if (!isCrossed(offer, w, g)) {
+                    break;
+                }
                 int affordable = state.mostMovable(purse - cost, paid, taker, offer.owner);
                 long most = offer.mostFor(Math.min(g - price, affordable));
-                goThrough((int) Math.min(w - taken, most));
+                goThrough(place, (int) Math.min(w - taken, most));
             }
         }
 
@@ -757,18 +738,18 @@ public final class TollLedger {
             cost = 0;
         }
 
-        private void goThrough(int most) {
-            Offer offer = book.row[reached];
+        private void goThrough(int place, int most) {
+            Offer offer = book.row[place];
             int owner = offer.owner;
             int movable = state.mostMovable(purses[owner], got, owner, taker);
             int v = Math.min(most, Math.min(offer.g, movable));
-            amounts[reached] = v;
-            prices[reached] = offer.priceOf(v);
+            amounts[place] = v;
+            prices[place] = offer.priceOf(v);
             purses[owner] -= state.costOf(v, got, owner, taker);
             taken += v;
-            price += prices[reached];
-            cost += state.costOf(prices[reached], paid, taker, owner);
-            reached++;
+            price += prices[place];
+            cost += state.costOf(prices[place], paid, taker, owner);
+            reached = place + 1;
         }
 
         int countUnfunded() {
