@@ -4,11 +4,13 @@ public final class DepositTest {
 
     public static void main(String[] args) {
         promise10();
-        promise10Wrong();
         promise10Six();
         promise10Short();
+        promise10ReserveOfOtherPieces();
         promise11();
-        promise11Wrong();
+        promise11Times();
+        promise11ByWhomever();
+        promise11WithItsLastCoins();
         promise12();
         promise19();
         CHECKS.end();
@@ -24,20 +26,6 @@ public final class DepositTest {
         CHECKS.same("other's coins", bench.ledger.account(0, 0), 998990);
         CHECKS.same("late times", bench.as(1).deposit(0, 6, 99999, 100000), 0);
         CHECKS.same("second", bench.ledger.depositOf(2), 6);
-    }
-
-    private static void promise10Wrong() {
-        Bench bench = new Bench(CHECKS).settlers(1, 1000);
-        int root = bench.ledger.root();
-        int[][] wrong = {{-1, 5, 0, 1}, {6, 5, 0, 1}, {1, 5, 0, 1}, {0, 0, 0, 1}, {0, -1, 0, 1},
-            {0, 1000001, 0, 1}, {0, 5, -1, 1}, {0, 5, 1, 1}, {0, 5, 2, 1}, {0, 5, 0, 100001},
-            {0, 5, 100000, 100001}, {0, 5, 0, 0}, {0, 5, Integer.MIN_VALUE, 1},
-            {0, 5, 0, Integer.MAX_VALUE}};
-        for (int[] w : wrong) {
-            CHECKS.same("wrong deposit", bench.as(1).deposit(w[0], w[1], w[2], w[3]), -1);
-            bench.unchanged("wrong deposit", root);
-        }
-        CHECKS.same("1000000", bench.as(1).deposit(0, 1000000, 0, 1), 22);
     }
 
     private static void promise10Six() {
@@ -90,15 +78,70 @@ public final class DepositTest {
         CHECKS.same("coins of 3", x.account(3, 0), 970);
     }
 
-    private static void promise11Wrong() {
-        Bench bench = new Bench(CHECKS).settlers(1, 1000);
-        int root = bench.ledger.root();
-        CHECKS.same("settle(0)", bench.as(1).settle(0), -1);
-        CHECKS.same("settle(-1)", bench.as(1).settle(-1), -1);
-        bench.unchanged("wrong settle", root);
-        CHECKS.same("settle(1)", bench.as(1).settle(1), 26);
-        CHECKS.same("settle(most)", bench.as(1).settle(Integer.MAX_VALUE), 26);
-        CHECKS.same("coins", bench.ledger.account(1, 0), 980);
+    /** With a line and an offer of its own, the deposit is the third piece: 160. */
+    private static void promise10ReserveOfOtherPieces() {
+        for (int v = 90; v <= 91; v++) {
+            Bench bench = new Bench(CHECKS).settlers(1, 280);
+            CHECKS.same("line", bench.as(1).trust(0, 1, 5, false), 0);
+            CHECKS.same("offer", bench.as(1).offer(0, 5, 2, 5, 0), 0);
+            CHECKS.same("v " + v, bench.as(1).deposit(0, v, 0, 9), v == 90 ? 0 : TollLedger.SHORT);
+            CHECKS.same("coins", bench.ledger.account(1, 0), v == 90 ? 160 : 250);
+            CHECKS.same("pieces", bench.ledger.account(1, 3), v == 90 ? 3 : 2);
+        }
+    }
+
+    /** Each row: after, until, the clock, and who gets the coins (-1: it is not the time). */
+    private static void promise11Times() {
+        int[][] rows = {{0, 1, 0, 2}, {0, 1, 1, 1}, {0, 100000, 0, 2}, {5, 6, 4, -1}, {5, 6, 5, 2},
+            {5, 6, 6, 1}, {5, 8, 0, -1}, {5, 8, 7, 2}, {5, 8, 8, 1}, {5, 8, 9, 1},
+            {99999, 100000, 99998, -1}, {99999, 100000, 99999, 2}, {99999, 100000, 100000, 1},
+            {0, 100000, 99999, 2}, {0, 100000, 100000, 1}, {0, 100000, 150000, 1}};
+        for (int[] row : rows) {
+            Bench bench = new Bench(CHECKS).settlers(3, 1000);
+            TollLedger x = bench.ledger;
+            CHECKS.same("deposit", bench.as(1).deposit(2, 100, row[0], row[1]), 0);
+            for (int left = row[2]; left > 0; left -= 1000) {
+                x.tick(Math.min(left, 1000));
+            }
+            CHECKS.same("clock", x.tick(0), row[2]);
+            String what = "from " + row[0] + " until " + row[1] + " at " + row[2];
+            CHECKS.same(what, bench.as(3).settle(1), row[3] < 0 ? TollLedger.TIME : 0);
+            CHECKS.same("maker, " + what, x.account(1, 0), row[3] == 1 ? 990 : 890);
+            CHECKS.same("other, " + what, x.account(2, 0), row[3] == 2 ? 1100 : 1000);
+            CHECKS.same("settler, " + what, x.account(3, 0), 990);
+            CHECKS.same("deposit, " + what, x.depositOf(1), row[3] < 0 ? 100 : -1);
+            CHECKS.same("maker's pieces, " + what, x.account(1, 3), row[3] < 0 ? 1 : 0);
+        }
+    }
+
+    private static void promise11ByWhomever() {
+        for (int settler = 0; settler <= 3; settler++) {
+            Bench bench = new Bench(CHECKS).settlers(3, 1000);
+            TollLedger x = bench.ledger;
+            CHECKS.same("deposit", bench.as(1).deposit(2, 100, 0, 5), 0);
+            CHECKS.same("deposit", bench.as(1).deposit(2, 200, 0, 9), 0);
+            x.tick(5);
+            CHECKS.same("back", bench.as(settler).settle(1), 0);
+            CHECKS.same("to the other", bench.as(settler).settle(2), 0);
+            CHECKS.same("maker", x.account(1, 0), 1000 - 20 - 200 - (settler == 1 ? 20 : 0));
+            CHECKS.same("other", x.account(2, 0), 1000 + 200 - (settler == 2 ? 20 : 0));
+        }
+    }
+
+    /** Its reserve does not hinder an account to settle, and what comes counts at once. */
+    private static void promise11WithItsLastCoins() {
+        Bench bench = new Bench(CHECKS).settlers(1, 100);
+        TollLedger x = bench.ledger;
+        CHECKS.same("deposit", bench.as(0).deposit(1, 1, 0, 5), 0);
+        CHECKS.same("deposit", bench.as(0).deposit(1, 10, 0, 5), 0);
+        for (int r = 1; r <= 9; r++) {
+            CHECKS.same("rate", bench.as(1).rate(r), 0);
+        }
+        CHECKS.same("with 10 coins", bench.as(1).settle(2), 0);
+        CHECKS.same("coins", x.account(1, 0), 10);
+        CHECKS.same("again", bench.as(1).settle(1), 0);
+        CHECKS.same("coins", x.account(1, 0), 1);
+        CHECKS.same("poor", bench.as(1).settle(3), TollLedger.POOR);
     }
 
     private static void promise12() {

@@ -4,7 +4,6 @@ public final class LineTest {
 
     public static void main(String[] args) {
         promise4();
-        promise4Wrong();
         promise4Reserve();
         promise4PieceByBalance();
         promise14();
@@ -26,17 +25,6 @@ public final class LineTest {
         CHECKS.same("limit", x.limit(1, 0, 1), 0);
         CHECKS.same("pieces", x.account(1, 3), 0);
         CHECKS.same("coins", x.account(1, 0), 4960);
-    }
-
-    private static void promise4Wrong() {
-        Bench bench = new Bench(CHECKS).settlers(1, 5000);
-        int root = bench.ledger.root();
-        int[][] wrong = {{-1, 1, 5}, {6, 1, 5}, {1, 1, 5}, {0, 0, 5}, {0, 3, 5}, {0, -1, 5},
-            {0, 1, -1}, {0, 1, 100001}, {0, 1, Integer.MIN_VALUE}};
-        for (int[] w : wrong) {
-            CHECKS.same("wrong trust", bench.as(1).trust(w[0], w[1], w[2], true), -1);
-            bench.unchanged("wrong trust", root);
-        }
     }
 
     private static void promise4Reserve() {

@@ -3,8 +3,6 @@ public final class OfferTest {
     private static final Checks CHECKS = new Checks();
 
     public static void main(String[] args) {
-        promise8Wrong();
-        promise8Short();
         promise8Placed();
         promise8CrossedOrNot();
         promise8PriceRoundedUp();
@@ -14,11 +12,7 @@ public final class OfferTest {
         promise8CostsWithinFunds();
         promise8CoinsWithinFunds();
         promise8Kinds();
-        promise8ReserveOfCoins();
-        promise8ReserveAfterwards();
-        promise8NotPlacedButCrossed();
         promise8Twelve();
-        promise8UnfundedMakesPlace();
         promise8UnfundedWorseIsNotGoneThrough();
         promise8NobodysPaper();
         promise8GreatNumbers();
@@ -26,33 +20,6 @@ public final class OfferTest {
         promise17();
         promise18();
         CHECKS.end();
-    }
-
-    private static void promise8Wrong() {
-        Bench bench = new Bench(CHECKS).settlers(1, 5000);
-        int root = bench.ledger.root();
-        int[][] wrong = {{-1, 5, 0, 5, 0}, {13, 5, 0, 5, 0}, {1, 5, -1, 5, 0}, {1, 5, 13, 5, 0},
-            {0, 5, 0, 5, 0}, {2, 5, 2, 5, 0}, {1, 0, 0, 5, 0}, {1, 100001, 0, 5, 0},
-            {1, 5, 0, 0, 0}, {1, 5, 0, 100001, 0}, {1, -1, 0, 5, 0}, {1, 5, 0, -1, 0},
-            {1, 5, 0, 5, -1}, {1, 5, 0, 5, 3}, {1, 5, 0, 5, Integer.MAX_VALUE}};
-        for (int[] w : wrong) {
-            CHECKS.same("wrong offer", bench.as(1).offer(w[0], w[1], w[2], w[3], w[4]), -1);
-            bench.unchanged("wrong offer", root);
-        }
-        CHECKS.same("the most", bench.as(1).offer(12, 100000, 0, 100000, 0), 0);
-        CHECKS.same("the least", bench.as(1).offer(0, 1, 2, 1, 0), 0);
-    }
-
-    private static void promise8Short() {
-        Bench bench = new Bench(CHECKS).settlers(1, 5000).issue(1, 1, 0);
-        CHECKS.same("no funds", bench.as(1).offer(0, 5, 1, 5, 0), 22);
-        CHECKS.same("no funds, kind 1", bench.as(1).offer(0, 5, 1, 5, 1), 22);
-        CHECKS.same("no funds, kind 2", bench.as(1).offer(0, 5, 1, 5, 2), 22);
-        CHECKS.same("send", bench.as(0).send(2, 110), 0);
-        CHECKS.same("coins as the reserve", bench.as(2).offer(1, 5, 0, 5, 1), 22);
-        CHECKS.same("send", bench.as(0).send(2, 11), 0);
-        CHECKS.same("one coin more", bench.as(2).offer(1, 5, 0, 5, 1), 25);
-        CHECKS.same("coins", bench.ledger.account(2, 0), 101);
     }
 
     private static void promise8Placed() {
@@ -202,39 +169,6 @@ public final class OfferTest {
         CHECKS.same("id 2", x.offerOf(2, 1), 10);
     }
 
-    private static void promise8ReserveOfCoins() {
-        Bench bench = new Bench(CHECKS);
-        CHECKS.same("send", bench.as(0).send(2, 129), 0);
-        CHECKS.same("119 of 120", bench.as(2).offer(0, 5, 3, 5, 0), 23);
-        CHECKS.same("not placed", bench.ledger.book(0, 3, -1), 0);
-        CHECKS.same("send", bench.as(0).send(2, 11), 0);
-        CHECKS.same("120 of 120", bench.as(2).offer(0, 5, 3, 5, 0), 0);
-        CHECKS.same("id", bench.ledger.book(0, 3, 0), 1);
-    }
-
-    /** The coins that a crossing brings count, and the piece that its balance no longer is. */
-    private static void promise8ReserveAfterwards() {
-        Bench bench = new Bench(CHECKS).settlers(1, 5000);
-        TollLedger x = bench.ledger;
-        CHECKS.same("offer", bench.as(1).offer(3, 20, 0, 20, 0), 0);
-        CHECKS.same("send", bench.as(0).send(2, 110), 0);
-        CHECKS.same("crossed and placed", bench.as(2).offer(0, 21, 3, 21, 0), 0);
-        CHECKS.same("coins", x.account(2, 0), 120);
-        CHECKS.same("rest", x.offerOf(2, 0), 1);
-        CHECKS.same("earned paper", x.balance(1, 2, 1), 20);
-    }
-
-    private static void promise8NotPlacedButCrossed() {
-        Bench bench = new Bench(CHECKS).settlers(1, 5000);
-        TollLedger x = bench.ledger;
-        CHECKS.same("offer", bench.as(1).offer(3, 20, 0, 19, 0), 0);
-        CHECKS.same("send", bench.as(0).send(2, 110), 0);
-        CHECKS.same("crossed, not placed", bench.as(2).offer(0, 20, 3, 22, 0), 0);
-        CHECKS.same("coins", x.account(2, 0), 119);
-        CHECKS.same("not placed", x.book(0, 3, -1), 0);
-        CHECKS.same("pieces", x.account(2, 3), 0);
-    }
-
     /** Twelve offers stand, each of which gives 10 of asset 1 for 10 coins or more. */
     private static Bench twelve() {
         Bench bench = new Bench(CHECKS).settlers(3, 5000).issue(1, 1, 10).issue(2, 1, 400);
@@ -258,22 +192,6 @@ public final class OfferTest {
         CHECKS.same("cancel", bench.as(3).cancel(13), 0);
         CHECKS.same("placed", bench.as(3).offer(1, 10, 0, 9, 0), 0);
         CHECKS.same("its id", x.offerOf(14, 1), 9);
-    }
-
-    private static void promise8UnfundedMakesPlace() {
-        Bench bench = twelve();
-        TollLedger x = bench.ledger;
-        x.spend(1, 1000, false);
-        CHECKS.same("1 has no funds", bench.as(1).pay(0, 1, 10), 0);
-        CHECKS.same("killed", bench.as(3).offer(1, 10, 0, 10, 1), 25);
-        CHECKS.same("a claim removes no offer", x.offerOf(1, 1), 10);
-        CHECKS.same("send", bench.as(0).send(4, 129), 0);
-        CHECKS.same("no reserve", bench.as(4).offer(1, 10, 0, 10, 0), 23);
-        CHECKS.same("a claim removes no offer", x.offerOf(1, 1), 10);
-        CHECKS.same("placed", bench.as(3).offer(1, 10, 0, 10, 0), 0);
-        CHECKS.same("gone", x.offerOf(1, 1), -1);
-        CHECKS.same("id", x.book(1, 0, 0), 13);
-        CHECKS.same("nothing taken", x.balance(3, 0, 1), 0);
     }
 
     private static void promise8UnfundedWorseIsNotGoneThrough() {

@@ -5,7 +5,6 @@ public final class PayTest {
     public static void main(String[] args) {
         promise6();
         promise6AtFirst();
-        promise7Wrong();
         promise7Limit();
         promise7Toll();
         promise7FundsAndMax();
@@ -53,21 +52,6 @@ public final class PayTest {
         CHECKS.same("coins", x.account(1, 0), 299980);
         CHECKS.same("coins", x.account(0, 0), 1000000 - 800000 - 30 + 100000);
         CHECKS.same("balance", x.balance(2, 0, 1), 100);
-    }
-
-    private static void promise7Wrong() {
-        Bench bench = new Bench(CHECKS).settlers(2, 5000).issue(1, 1, 400).issue(2, 1, 0);
-        bench.ledger.spend(1, 1000000, true);
-        int root = bench.ledger.root();
-        int[][] wrong = {{-1, 1, 5}, {6, 1, 5}, {1, 1, 5}, {2, 0, 5}, {2, 13, 5}, {2, -1, 5},
-            {2, 1, 0}, {2, 1, -1}, {2, 1, 401}, {2, 1, Integer.MAX_VALUE}};
-        for (int[] w : wrong) {
-            CHECKS.same("wrong pay", bench.as(1).pay(w[0], w[1], w[2]), -1);
-            bench.unchanged("wrong pay", root);
-        }
-        CHECKS.same("no other", bench.as(1).pay(5, 1, 5), 21);
-        CHECKS.same("the most", bench.as(1).pay(2, 1, 400), 0);
-        CHECKS.same("balance", bench.ledger.balance(2, 0, 1), 400);
     }
 
     private static void promise7Limit() {

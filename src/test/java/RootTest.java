@@ -6,6 +6,9 @@ public final class RootTest {
         promise21Accounts();
         promise21EveryLine();
         promise21OffersAndDeposits();
+        promise21IntsThatWrap();
+        promise21FullRows();
+        promise21OwedEitherWay();
         promise21ClockAndSignerAreNoPart();
         CHECKS.end();
     }
@@ -84,6 +87,57 @@ public final class RootTest {
         closer[48] = leaves[48];
         closer[49] = leaves[50];
         CHECKS.same("root with fewer", x.root(), Folding.rootOf(closer));
+    }
+
+    /** 100003 * 100000 and 3001 * 990000 are beyond the ints. */
+    private static void promise21IntsThatWrap() {
+        Bench bench = new Bench(CHECKS).settlers(1, 100);
+        TollLedger x = bench.ledger;
+        CHECKS.same("offer", bench.as(0).offer(12, 100000, 7, 100000, 0), 0);
+        CHECKS.same("rate", bench.as(0).rate(200), 0);
+        CHECKS.same("deposit", bench.as(0).deposit(1, 990000, 99999, 100000), 0);
+        long[] leaves = accountLeaves(x);
+        leaves[36] = 1 + 512L * (12 + 13 * 7) + 100003L * 100000 + 7L * 100000;
+        leaves[48] = 1 + 64L * 6 + 3001L * 990000 + 11L * 99999 + 13L * 100000;
+        CHECKS.yes("beyond", leaves[36] > Integer.MAX_VALUE && leaves[48] > Integer.MAX_VALUE);
+        CHECKS.same("root", x.root(), Folding.rootOf(leaves));
+    }
+
+    /** Twelve offers and six deposits reach the last of their leaves; those behind stay 0. */
+    private static void promise21FullRows() {
+        Bench bench = new Bench(CHECKS).settlers(1, 50000);
+        TollLedger x = bench.ledger;
+        long[] leaves = new long[64];
+        for (int i = 0; i < 12; i++) {
+            CHECKS.same("offer", bench.as(i % 2).offer(3, 5 + i, 0, 9, 0), 0);
+            leaves[36 + i] = i + 1 + 64 * (i % 2) + 512 * 3 + 100003L * (5 + i) + 7 * 9;
+        }
+        for (int i = 0; i < 6; i++) {
+            CHECKS.same("deposit", bench.as(i % 2).deposit(1 - i % 2, 7 + i, i, 50), 0);
+            leaves[48 + i] = i + 1 + 64 * (i % 2 + 6 * (1 - i % 2)) + 3001 * (7 + i) + 11 * i
+                    + 13 * 50;
+        }
+        System.arraycopy(accountLeaves(x), 0, leaves, 0, 6);
+        CHECKS.same("full", x.root(), Folding.rootOf(leaves));
+        for (int i = 0; i < 12; i++) {
+            CHECKS.same("cancel", bench.as(i % 2).cancel(i + 1), 0);
+            leaves[36 + i] = 0;
+        }
+        x.tick(9);
+        for (int i = 0; i < 6; i++) {
+            CHECKS.same("settle", bench.as(1).settle(i + 1), 0);
+            leaves[48 + i] = 0;
+        }
+        System.arraycopy(accountLeaves(x), 0, leaves, 0, 6);
+        CHECKS.same("empty again", x.root(), Folding.rootOf(leaves));
+    }
+
+    private static void promise21OwedEitherWay() {
+        Bench bench = new Bench(CHECKS).settlers(1, 50000).issue(1, 1, 30).issue(0, 8, 40);
+        long[] leaves = accountLeaves(bench.ledger);
+        leaves[6] = -30 + 17L * 100000;
+        leaves[7] = 40 + 31L * 100000;
+        CHECKS.same("root", bench.ledger.root(), Folding.rootOf(leaves));
     }
 
     private static void promise21ClockAndSignerAreNoPart() {

