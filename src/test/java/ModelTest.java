@@ -5,7 +5,8 @@ import java.util.TreeMap;
 
 /**
  * Long runs of calls, the same ones each time, given both to the program and to PlainLedger: every
- * answer, and the root after every call, must be the same.
+ * answer, and the root after every call, must be the same. The runs go on beyond the 512 calls that
+ * the document binds, since states that are rare are reached late.
  */
 public final class ModelTest {
     private static final int RUNS = 400;

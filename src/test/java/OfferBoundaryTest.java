@@ -13,6 +13,7 @@ public final class OfferBoundaryTest {
         priceWithinWhatIsLeftOfG();
         costWithinFunds();
         costWithinFundsAfterCostsBefore();
+        noMoreThanIsStillWanted();
         allTakenWithCoinsLeft();
         allGivenWithSomethingStillWanted();
         kindTwoTakesAllOrNothing();
@@ -24,6 +25,7 @@ public final class OfferBoundaryTest {
         coinsFallAndGrow();
         twelveBeforeElevenThen();
         unfundedOffersMakePlace();
+        fundedOffersThatGiveNothingMakeNone();
         reserveOnlyWhenNothingWasTaken();
         CHECKS.end();
     }
@@ -138,6 +140,20 @@ public final class OfferBoundaryTest {
         CHECKS.same("got", x.balance(2, 0, 2), 9);
         CHECKS.same("left", x.balance(2, 0, 1), 0);
         rest(x, 2, 1, 1);
+    }
+
+    /** Of the second and third offer only what the first has left to be taken. */
+    private static void noMoreThanIsStillWanted() {
+        Bench bench = offered(10, 10);
+        TollLedger x = bench.ledger;
+        CHECKS.same("offer", bench.as(1).offer(0, 20, 1, 10, 0), 0);
+        CHECKS.same("offer", bench.as(1).offer(0, 30, 1, 10, 0), 0);
+        CHECKS.same("15 of 30", bench.as(2).offer(1, 15, 0, 900, 0), 0);
+        CHECKS.same("got", x.balance(2, 0, 1), 15);
+        CHECKS.same("paid", x.account(2, 0), 5000 - 10 - 20);
+        rest(x, 1, -1, -1);
+        rest(x, 2, 10, 5);
+        rest(x, 3, 30, 10);
     }
 
     private static void allTakenWithCoinsLeft() {
@@ -277,6 +293,21 @@ public final class OfferBoundaryTest {
         rest(x, 1, 10, 10);
         CHECKS.same("reached, gone, placed", bench.as(3).offer(1, 10, 0, 10, 0), 0);
         rest(x, 1, -1, -1);
+        rest(x, 13, 10, 10);
+    }
+
+    /** 1 of funds pays no toll: the first offer is left as it is, so there are still twelve. */
+    private static void fundedOffersThatGiveNothingMakeNone() {
+        Bench bench = twelve();
+        TollLedger x = bench.ledger;
+        x.spend(1, 1000, false);
+        CHECKS.same("all but 1 away", bench.as(1).pay(0, 1, 9), 0);
+        CHECKS.same("rate", bench.as(0).rate(1), 0);
+        CHECKS.same("no place", bench.as(3).offer(1, 10, 0, 10, 0), TollLedger.RESERVE);
+        rest(x, 1, 10, 10);
+        CHECKS.same("cancel", bench.as(2).cancel(12), 0);
+        CHECKS.same("place", bench.as(3).offer(1, 10, 0, 10, 0), 0);
+        rest(x, 1, 10, 10);
         rest(x, 13, 10, 10);
     }
 

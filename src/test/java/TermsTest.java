@@ -15,6 +15,7 @@ public final class TermsTest {
         issuersFundsStayTheSame();
         tollIsRoundedUp();
         tollIsOnlyBetweenOthers();
+        greatAmountsToAnIssuerHaveNoToll();
         coinHasNoToll();
         rateCountsFromTheNextMove();
         CHECKS.end();
@@ -196,6 +197,22 @@ public final class TermsTest {
         CHECKS.same("between others", bench.as(1).pay(2, 1, 50), 0);
         CHECKS.same("payer", x.balance(1, 0, 1), 0);
         CHECKS.same("payee", x.balance(2, 0, 1), 100);
+    }
+
+    private static void greatAmountsToAnIssuerHaveNoToll() {
+        Bench bench = new Bench(CHECKS).settlers(1, 300000);
+        TollLedger x = bench.ledger;
+        CHECKS.same("rate", bench.as(0).rate(200), 0);
+        CHECKS.same("offer", bench.as(0).offer(0, 100000, 1, 100000, 0), 0);
+        CHECKS.same("bought", bench.as(1).offer(1, 100000, 0, 100000, 2), 0);
+        CHECKS.same("balance", x.balance(1, 0, 1), 100000);
+        CHECKS.same("offer", bench.as(1).offer(0, 60000, 1, 60000, 0), 0);
+        CHECKS.same("taken back", bench.as(0).offer(1, 60000, 0, 60000, 2), 0);
+        CHECKS.same("balance", x.balance(1, 0, 1), 40000);
+        CHECKS.same("offer", bench.as(0).offer(1, 50000, 7, 50000, 0), 0);
+        CHECKS.same("paid with", bench.as(1).offer(7, 50000, 1, 50000, 1), 0);
+        CHECKS.same("all of it", x.balance(1, 0, 1), 0);
+        CHECKS.same("got", x.balance(1, 0, 2), 40000);
     }
 
     private static void coinHasNoToll() {

@@ -4,6 +4,7 @@ public final class TransactionTest {
 
     public static void main(String[] args) {
         promise1();
+        promise1HoldsFor512Calls();
         promise2();
         promise3();
         promise3Short();
@@ -32,6 +33,23 @@ public final class TransactionTest {
         long[] leaves = new long[64];
         leaves[0] = 1000000L * 1024 + 1;
         CHECKS.same("root", x.root(), Folding.rootOf(leaves));
+    }
+
+    /** Five hundred and twelve calls, the last of which is the root. */
+    private static void promise1HoldsFor512Calls() {
+        TollLedger x = new TollLedger();
+        for (int i = 1; i <= 255; i++) {
+            CHECKS.yes("by", x.by(0, i));
+            CHECKS.same("rate", x.rate(i % 201), 0);
+        }
+        CHECKS.same("call 511", x.tick(1000), 1000);
+        long[] leaves = new long[64];
+        leaves[0] = (1000000L - 2550) * 1024 + 256 + 300007L * (255 % 201);
+        CHECKS.same("call 512", x.root(), Folding.rootOf(leaves));
+        TollLedger clock = new TollLedger();
+        for (int i = 1; i <= 512; i++) {
+            CHECKS.same("tick " + i, clock.tick(1000), 1000 * i);
+        }
     }
 
     private static void promise2() {
