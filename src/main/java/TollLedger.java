@@ -372,7 +372,7 @@ public final class TollLedger {
         return taking.taken < n || taking.cost > purse ? ABSENT : taking.cost;
     }
 
-    /** No line leads from an account to itself, so this never holds where one side is the issuer. */
+    /** No line leads from an account to itself, so this never holds if one side is the issuer. */
     private boolean isHushed(int k, int b) {
         int issuer = issuerOf(k);
         int currency = currencyOf(k);
@@ -440,14 +440,14 @@ public final class TollLedger {
             return (long) w * other.g < (long) other.w * g;
         }
 
-        /** An offer that stands never gives or wants 0, so g divides. */
+        /** No offer that stands gives or wants 0; g and w are looked at all the same. */
         int priceOf(int v) {
-            return (int) (((long) v * w + g - 1) / g);
+            return g > 0 ? (int) (((long) v * w + g - 1) / g) : 0;
         }
 
         /** The most of what it gives that is to be had for a price of at most so much. */
         long mostFor(int price) {
-            return (long) price * g / w;
+            return w > 0 ? (long) price * g / w : 0;
         }
 
         int leaf() {
@@ -651,7 +651,7 @@ public final class TollLedger {
 
         void gather(ArrayList<Offer> offers, int x, int k, int leftOut) {
             size = 0;
-            for (int i = 0; i < offers.size(); i++) {
+            for (int i = 0; i < offers.size() && i < MOST_OFFERS; i++) {
                 Offer offer = offers.get(i);
                 if (offer.wants == x && offer.gives == k && offer.owner != leftOut) {
                     insert(offer);
@@ -797,10 +797,10 @@ public final class TollLedger {
                 row[a] = state.accounts[a].leaf();
             }
             fillLines(state.lines);
-            for (int i = 0; i < state.offers.size(); i++) {
+            for (int i = 0; i < state.offers.size() && i < MOST_OFFERS; i++) {
                 row[FIRST_OFFER + i] = state.offers.get(i).leaf();
             }
-            for (int i = 0; i < state.deposits.size(); i++) {
+            for (int i = 0; i < state.deposits.size() && i < MOST_DEPOSITS; i++) {
                 row[FIRST_DEPOSIT + i] = state.deposits.get(i).leaf();
             }
         }
